@@ -469,7 +469,6 @@ public final class BuildingJury {
     }
 
     private void admitAllThatStand() {
-        firstRound.empty();
         for (int k = 0; k < schemeCount; k++) {
             Scheme seen = schemeAt(k);
             if (seen != null && seen.isHandedIn()
@@ -1765,13 +1764,6 @@ public final class BuildingJury {
         int size = 0;
         int rule = 0;
         private int tie = 0;
-
-        void empty() {
-            for (int i = 0; i < in.length; i++) {
-                in[i] = false;
-            }
-            size = 0;
-        }
 
         void admit(int scheme) {
             if (scheme >= 0 && scheme < in.length && !in[scheme]) {

@@ -8,6 +8,8 @@ public final class BriefTest {
         taking();
         faults();
         numberBounds();
+        wrongTurns();
+        usedAgain();
         nameFaults();
         openOnes();
         fortyStatements();
@@ -167,6 +169,41 @@ public final class BriefTest {
         Due.good("room a least 999999 light 999999;");
     }
 
+    /** A statement that begins where another must go on is a fault all the same. */
+    private static void wrongTurns() {
+        String room = "room a least 1;";
+        String[] begun = {"room ", "room a ", "room a least ", "room a least 1 light ", "room a least 1 ", "room a least 1 light 1 ",
+            "near ", "near a ", "near a a ", "near a a within ", "near a a within 1 ", "apart a a by ", "rate ", "rate a ",
+            "rate a 1 ", "wall ", "wall 1 ", "cost ", "cost most ", "cost most 1 ", "cost most 1 span ", "cost most 1 span 1 ",
+            "out ", "out if ", "out if cells ", "out if cells< ", "out if cells<1 ", "out if cells<1 and ", "out if not ",
+            "out if (cells<1 ", "out if (cells<1) ", "close ", "keep ", "vote ", "vote first ", "tie ", "tie head ", "fee ",
+            "fee 1 ", "fee 1 2 ", "fee 1 2 3 "};
+        for (String text : begun) {
+            Due.fault(room + text + "wall 3;", 15 + text.length());
+            Due.fault(room + text, 15 + text.length());
+        }
+        Due.fault("tie cells;", 4);
+        Due.fault("tie pair;", 4);
+        Due.fault("vote and;", 5);
+        Due.fault("out if and<1;", 7);
+        Due.fault("out if span<1;", 7);
+    }
+
+    private static void usedAgain() {
+        BuildingJury x = new BuildingJury();
+        String longest = "cells<1 or ".repeat(70);
+        for (int i = 0; i < 9; i++) {
+            Due.due("a fault behind much", Due.brief(x, "wall 3;room a least 1;out if " + longest + "cells<1"), -1);
+            Due.due("another one", Due.brief(x, "room a least 1;rate a 7;wall 3;out if " + longest), -1);
+        }
+        Due.due("a good one", Due.brief(x, "room b least 1;out if " + longest + "cells=0;"), 0);
+        Due.due("nothing is left over", x.law(0, 0), 10);
+        Due.due("nothing is left over", x.law(0, 21), 100);
+        Due.due("nothing is left over", x.law(0, 11), 2);
+        Due.due("nothing is left over", x.name(1, 0), 'b');
+        Due.due("nothing is left over", x.name(2, 0), -1);
+    }
+
     private static void nameFaults() {
         Due.good("room abcdefgh least 1;rate abcdefgh 3;");
         Due.fault("room abcdefghi least 1;", 5);
@@ -287,6 +324,14 @@ public final class BriefTest {
         can("cost most 5000;room a least 10;room b least 10;rate a 7;cost most 1069;cost most 4000;", 2);
         can("room a least 999999;room b least 999999;rate a 9999;rate b 9999;cost most 1;", 1);
         can("cost most 0;", 0);
+        StringBuilder twelve = new StringBuilder();
+        for (char c = 'a'; c < 'm'; c++) {
+            twelve.append("room ").append(c).append(" least ").append(c == 'l' ? 51 : 10).append(';');
+        }
+        can(twelve.toString(), 1);
+        can(twelve + "rate l 7;cost most 11357;", 1);
+        can(twelve.toString().replace("51", "50") + "rate l 7;cost most 11349;", 2);
+        can(twelve.toString().replace("51", "50") + "rate l 7;cost most 11350;", 0);
     }
 
     private static void names() {

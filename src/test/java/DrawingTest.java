@@ -248,6 +248,7 @@ public final class DrawingTest {
         why("out if not not storeys=1;", 2);
         why("out if not cells<6 and not cells>6;", 2);
         why("out if cells>5 and (cells<3 or (ways=1 and (stairs=1 or not rooms=3)));", 2);
+        lastRoom();
         BuildingJury x = drawn("out if dark>0;");
         x.sun(0, 0);
         x.sun(1, 0);
@@ -268,6 +269,21 @@ public final class DrawingTest {
         Due.brief(x, "wall 4;");
         Due.due("the last one of its day", x.why(1), -1);
         Due.due("the first one's day is past", x.why(0), 1);
+    }
+
+    private static void lastRoom() {
+        BuildingJury x = Due.good("out if rooms>2 and dark=0;out if rooms>2;");
+        x.scheme(0);
+        x.draw(0, 0, 0, 0, 1, 1, 1);
+        cell(x, 0, 0, 2, 0, 13);
+        cell(x, 0, 0, 3, 0, 2);
+        Due.due("two rooms", x.why(0), -1);
+        cell(x, 0, 1, 4, 4, 12);
+        Due.due("the twelfth", x.why(0), 0);
+        x.draw(0, 1, 3, 3, 5, 5, 13);
+        cell(x, 0, 1, 4, 4, 12);
+        Due.due("the twelfth is dark", x.why(0), 1);
+        Due.due("its cost", x.cost(0, 0, 0), 550 + 140 + 8 * 50 + 100 + 160);
     }
 
     private static void late() {
@@ -361,6 +377,7 @@ public final class DrawingTest {
         x.scheme(0);
         Due.due("most of one", x.most(0), -1);
         x.scheme(1);
+        Due.due("most of two", x.most(2), 1);
         x.scheme(2);
         cell(x, 0, 0, 0, 0, 1);
         cell(x, 0, 0, 1, 0, 2);

@@ -9,6 +9,7 @@ public final class RoundTest {
         pairs();
         voices();
         voicesFixed();
+        weighedAtLast();
         ties();
         keeping();
         ownRule();
@@ -251,6 +252,27 @@ public final class RoundTest {
         orderIs("fixed, too", x, 2, 1, 0, 1, 2);
         Due.due("fixed, too", x.voice(2, 1), 1);
         Due.due("fixed, too", x.voice(2, 0), 0);
+    }
+
+    /** Nobody asks for voices between the marks and the closing. */
+    private static void weighedAtLast() {
+        BuildingJury x = jury(2, "keep 1;");
+        x.open();
+        rowOf(x, 0, 1);
+        rowOf(x, 1, 0);
+        x.knows(0, 11, 1000);
+        x.day(1000);
+        Due.due("kept", x.close(), 1);
+        Due.due("not kept", x.order(1, -1, 1), 1);
+        Due.due("who knows", x.voice(1, 0), 0);
+        Due.due("who never does", x.voice(1, 1), 1);
+        Due.due("points", x.points(1, 0, 0), 1);
+        x = jury(2, "keep 1;");
+        x.open();
+        rowOf(x, 0, 1);
+        x.knows(0, 11, 0);
+        x.close();
+        Due.due("told behind the marks", x.points(1, 0, 1), 0);
     }
 
     private static void ties() {
