@@ -184,7 +184,7 @@ public final class BuildingJury {
         if (seen == null || !isRoom(room) || !isRoom(other) || room == other) {
             return NONE;
         }
-        return survey.stepsOf(seen, room, other);
+        return survey.stepsWithin(seen, room, other, Brief.MOST_CELLS);
     }
 
     public int cost(int scheme, int day, int what) {
@@ -905,7 +905,7 @@ public final class BuildingJury {
         private final int[] starts = new int[Tape.MOST + 1];
         private final long[] values = new long[Tape.MOST + 1];
         private final boolean[] told = new boolean[ROOMS + 1];
-        private Brief brief = null;
+        private Brief brief = new Brief(0, 0);
         private int at = 0;
         private int taken = 0;
 
@@ -1453,8 +1453,9 @@ public final class BuildingJury {
             return scheme.roomsWithCells() - Integer.bitCount(lit);
         }
 
-        int stepsOf(Scheme scheme, int room, int other) {
-            if (scheme.countOf(room) == 0 || scheme.countOf(other) == 0) {
+        /** The steps of two rooms; NONE if there are none or more than so many. */
+        int stepsWithin(Scheme scheme, int room, int other, int most) {
+            if (scheme.countOf(room) == 0 || scheme.countOf(other) == 0 || most < 0) {
                 return NONE;
             }
             if (room == other) {
@@ -1469,24 +1470,28 @@ public final class BuildingJury {
                     waiting++;
                 }
             }
-            return walk(scheme, other, waiting);
+            return walk(scheme, other, waiting, most);
         }
 
         /** From the places that wait in the queue to the nearest one of a room. */
-        private int walk(Scheme scheme, int room, int begun) {
+        private int walk(Scheme scheme, int room, int begun, int most) {
             int waiting = begun;
             for (int next = 0; next < waiting && next < queue.length; next++) {
                 int from = queue[next];
+                int far = from >= 0 && from < reached.length ? reached[from] : most;
+                // The queue holds the nearer ones first: behind this one none goes on either.
+                if (far >= most) {
+                    return NONE;
+                }
                 for (int way = 0; way <= SIDES; way++) {
                     int to = stepFrom(scheme, from, way);
-                    if (to < 0 || to >= reached.length || from < 0 || from >= reached.length
-                            || reached[to] != NONE) {
+                    if (to < 0 || to >= reached.length || reached[to] != NONE) {
                         continue;
                     }
-                    reached[to] = reached[from] + 1;
                     if (scheme.thingAt(to) == room) {
-                        return reached[to];
+                        return far + 1;
                     }
+                    reached[to] = far + 1;
                     if (waiting < queue.length) {
                         queue[waiting] = to;
                         waiting++;
@@ -1528,16 +1533,13 @@ public final class BuildingJury {
             int first = brief.firsts[statement];
             int second = brief.seconds[statement];
             int third = brief.thirds[statement];
-            int walked;
             switch (brief.kinds[statement]) {
                 case Words.ROOM:
                     return scheme.countOf(first) < second || third > 0 && lightOf(scheme, first) < third;
                 case Words.NEAR:
-                    walked = stepsOf(scheme, first, second);
-                    return walked == NONE || walked > third;
+                    return stepsWithin(scheme, first, second, third) == NONE;
                 case Words.APART:
-                    walked = stepsOf(scheme, first, second);
-                    return walked != NONE && walked < third;
+                    return stepsWithin(scheme, first, second, third - 1) != NONE;
                 case Words.COST:
                     return scheme.costBy(brief) > first;
                 case Words.OUT:
