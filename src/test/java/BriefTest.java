@@ -192,7 +192,7 @@ public final class BriefTest {
     private static void usedAgain() {
         BuildingJury x = new BuildingJury();
         String longest = "cells<1 or ".repeat(70);
-        for (int i = 0; i < 9; i++) {
+        for (int i = 0; i < 5; i++) {
             Due.due("a fault behind much", Due.brief(x, "wall 3;room a least 1;out if " + longest + "cells<1"), -1);
             Due.due("another one", Due.brief(x, "room a least 1;rate a 7;wall 3;out if " + longest), -1);
         }

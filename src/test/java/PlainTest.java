@@ -2,8 +2,9 @@ import java.util.Random;
 
 /** Long courses of calls with seeded arguments: BuildingJury's answers held against PlainJury's. */
 public final class PlainTest {
-    private static final int COURSES = 300;
-    private static final int CALLS = 400;
+    private static final int COURSES = 1200;
+    /** What an object is used for at most, less what one step and the last counts may take. */
+    private static final int CALLS = 512 - 82;
 
     private final Random random;
     private final BuildingJury x = new BuildingJury();
@@ -11,6 +12,7 @@ public final class PlainTest {
     private final int seed;
     /** In every other course the briefs throw few schemes out, so that there are rounds. */
     private final boolean mild;
+    private int calls = 0;
 
     private PlainTest(int seed) {
         this.seed = seed;
@@ -44,18 +46,18 @@ public final class PlainTest {
     }
 
     private void same(String call, long got, long want) {
+        calls++;
         Due.due("course " + seed + ": " + call, got, want);
     }
 
     private void same(String call, boolean got, boolean want) {
-        Due.due("course " + seed + ": " + call, got, want);
+        same(call, got ? 1 : 0, want ? 1 : 0);
     }
 
     private void course() {
-        for (int i = 0; i < 3; i++) {
-            briefing();
-        }
-        int many = 4 + (mild ? upTo(6) : 0);
+        briefing();
+        briefing();
+        int many = 3 + (mild ? upTo(7) : 0);
         for (int i = 0; i < many; i++) {
             int author = upTo(39);
             same("scheme", x.scheme(author), y.scheme(author));
@@ -65,8 +67,12 @@ public final class PlainTest {
                 same("hand", x.hand(i), y.hand(i));
             }
         }
-        for (int i = 0; i < CALLS; i++) {
-            one(mild && once(2) ? 60 + upTo(37) : random.nextInt(100));
+        for (int i = 0; calls < CALLS; i++) {
+            if (mild && i % 5 == 4) {
+                rounds();
+            } else {
+                one(mild && once(2) ? 69 + upTo(28) : random.nextInt(100));
+            }
         }
         for (int what = -1; what <= 15; what++) {
             same("count " + what, x.count(what), y.count(what));
@@ -210,6 +216,7 @@ public final class PlainTest {
     /** Puts a text on both tapes; how many bytes of it fit. */
     private int tape(String text) {
         Due.tape(x, text);
+        calls += (text.length() + 19) / 20;
         for (int i = 0; i < text.length() && y.tape.length() <= 880; i += 20) {
             String part = text.substring(i, Math.min(i + 20, text.length()));
             y.tape.append(part).append(" ".repeat(20 - part.length()));
@@ -223,7 +230,8 @@ public final class PlainTest {
         int n = tape(text);
         same("brief " + n + " of " + text, x.brief(n), y.brief(n));
         same("fault of " + text, x.fault(), y.fault());
-        for (int what = -1; what < 34; what++) {
+        for (int i = 0; i < 8; i++) {
+            int what = once(2) ? about(12) : about(34);
             same("law " + what + " of " + text, x.law(y.today, what), y.law(y.today, what));
         }
     }
@@ -310,7 +318,7 @@ public final class PlainTest {
     private void rounds() {
         if (y.opened == 0 && !once(4) && y.closed < 2) {
             same("open", x.open(), y.open());
-        } else if (once(3)) {
+        } else if (once(y.opened == 0 ? 9 : 2)) {
             same("close", x.close(), y.close());
         } else if (once(2)) {
             same("pay", x.pay(), y.pay());
