@@ -121,7 +121,7 @@ public final class BuildingJury {
     }
 
     public int scheme(int author) {
-        if (!isAuthor(author) || schemeCount >= MOST_SCHEMES) {
+        if (!isAuthor(author) || schemeCount < 0 || schemeCount >= schemes.length) {
             return NONE;
         }
         schemes[schemeCount] = new Scheme(author);

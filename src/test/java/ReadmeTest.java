@@ -45,7 +45,7 @@ public final class ReadmeTest {
 
     private static String printed(Path folder, String commands) throws IOException, InterruptedException {
         Process run = new ProcessBuilder(List.of("sh", "-e", "-c", commands)).directory(folder.toFile())
-            .redirectErrorStream(true).start();
+            .redirectError(ProcessBuilder.Redirect.INHERIT).start();
         String text = new String(run.getInputStream().readAllBytes());
         Due.due("the example's commands end with", run.waitFor(), 0);
         return text;
